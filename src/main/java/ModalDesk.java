@@ -28,7 +28,6 @@ public final class ModalDesk {
     private static final int MOST_EITHERS = 400;
     private static final int MOST_LINES = 1299;
     private static final int LINE_BYTES = 3;
-    private static final int LETTERS = 26;
     private static final int COUNTS = 4;
 
     /** Far above what any run needs: it only shows that a loop ends. */
@@ -307,14 +306,14 @@ public final class ModalDesk {
             if (i < 0 || i >= size) {
                 return NONE;
             }
-            return words[i >> 2] >>> shiftOf(i) & 255;
+            return words[i >> 2] >>> 24 - 8 * (i & 3) & 255;
         }
 
         boolean put(int i, int v) {
             if (i < 0 || i >= size) {
                 return false;
             }
-            int shift = shiftOf(i);
+            int shift = 24 - 8 * (i & 3);
             words[i >> 2] = words[i >> 2] & ~(255 << shift) | (v & 255) << shift;
             return true;
         }
@@ -343,13 +342,9 @@ public final class ModalDesk {
 
         void copy(ByteRow from) {
             size = from.size;
-            for (int i = 0; i < words.length; i++) {
+            for (int i = 0; 4 * i < size && i < words.length; i++) {
                 words[i] = from.words[i];
             }
-        }
-
-        private static int shiftOf(int i) {
-            return 24 - 8 * (i & 3);
         }
     }
 
@@ -379,7 +374,7 @@ public final class ModalDesk {
 
         void copy(Lines from) {
             size = from.size;
-            for (int i = 0; i < rows.length; i++) {
+            for (int i = 0; i < size && i < rows.length; i++) {
                 rows[i] = from.rows[i];
             }
         }
@@ -422,34 +417,36 @@ public final class ModalDesk {
 
         /** The bits of FORMULAS 64 * k and on. */
         long bits(int row, int k) {
-            return isPlace(row, k << 6) ? words[row * WORDS + k] : 0L;
-        }
-
-        void become(int row, int k, long bits) {
-            if (isPlace(row, k << 6)) {
-                words[row * WORDS + k] = bits;
-            }
+            return isPlace(row, 64 * k) ? words[row * WORDS + k] : 0L;
         }
 
         void empty(int row) {
-            for (int k = 0; k < WORDS; k++) {
-                become(row, k, 0L);
+            for (int k = 0; k < WORDS && isPlace(row, 0); k++) {
+                words[row * WORDS + k] = 0L;
             }
         }
 
         void copy(int row, Sets from, int other) {
-            for (int k = 0; k < WORDS; k++) {
-                become(row, k, from.bits(other, k));
+            boolean possible = isPlace(row, 0) && from.isPlace(other, 0);
+            for (int k = 0; k < WORDS && possible; k++) {
+                words[row * WORDS + k] = from.words[other * WORDS + k];
+            }
+        }
+
+        /** Keeps of a row only what a row of another one has, too. */
+        void meet(int row, Sets with, int other) {
+            boolean possible = isPlace(row, 0) && with.isPlace(other, 0);
+            for (int k = 0; k < WORDS && possible; k++) {
+                words[row * WORDS + k] &= with.words[other * WORDS + k];
             }
         }
 
         boolean isSame(int row, int other) {
-            for (int k = 0; k < WORDS; k++) {
-                if (bits(row, k) != bits(other, k)) {
-                    return false;
-                }
+            boolean same = isPlace(row, 0) && isPlace(other, 0);
+            for (int k = 0; k < WORDS && same; k++) {
+                same = words[row * WORDS + k] == words[other * WORDS + k];
             }
-            return true;
+            return same;
         }
 
         int sizeOf(int row) {
@@ -461,7 +458,7 @@ public final class ModalDesk {
         }
 
         private boolean isPlace(int row, int f) {
-            return row >= 0 && f >= 0 && f < WORDS * 64 && row < words.length / WORDS;
+            return f >= 0 && f < 64 * WORDS && row >= 0 && row < words.length / WORDS;
         }
     }
 
@@ -505,8 +502,9 @@ public final class ModalDesk {
             return has(f) ? twins[f] : NONE;
         }
 
-        long bitsOfSort(int sort, int k) {
-            return ofSort.bits(sort, k);
+        /** A row for each sort: the FORMULAS that are of it. */
+        Sets bySort() {
+            return ofSort;
         }
 
         /** The number of the FORMULA, which is made if it isn't there; NONE if it would be too many. */
@@ -563,6 +561,9 @@ public final class ModalDesk {
      * nodes than these would be more FORMULAS than there may be.
      */
     private static final class Draft {
+        /** T is the first node of every draft. */
+        static final int YES_OF_T = 0;
+
         private static final int MOST_NODES = MOST_FORMULAS / 2;
 
         private final Stock stock;
@@ -602,7 +603,7 @@ public final class ModalDesk {
         }
 
         int either(int x, int y) {
-            return deny(both(deny(x), deny(y)));
+            return deny(node(BOTH, deny(x), deny(y)));
         }
 
         int need(int x) {
@@ -610,7 +611,7 @@ public final class ModalDesk {
         }
 
         int may(int x) {
-            return deny(need(deny(x)));
+            return deny(node(NEED, deny(x), NONE));
         }
 
         /** Drafts the text of FORMULA f: its mark. */
@@ -688,7 +689,7 @@ public final class ModalDesk {
             }
             if (size >= MOST_NODES) {
                 over = true;
-                return 0;
+                return YES_OF_T;
             }
             int i = size;
             size++;
@@ -834,9 +835,12 @@ public final class ModalDesk {
             } else if (isOpening(sign)) {
                 acceptOpening(sign, p);
             } else if (isAtom(sign)) {
-                acceptAtom(sign);
+                pushMark(markOfAtom(sign));
+                endOperand();
             } else if (sign == ')') {
-                acceptClosing();
+                joinDownTo(1);
+                closeBracket();
+                endOperand();
             } else {
                 joinDownTo(sign == '>' ? rankOf(sign) + 1 : rankOf(sign));
                 pushSign(sign);
@@ -863,24 +867,18 @@ public final class ModalDesk {
             }
         }
 
-        private void acceptAtom(int sign) {
-            int mark = 0;
-            if (sign == 'F') {
-                mark = Draft.deny(mark);
-            } else if (sign != 'T') {
-                mark = draft.letter(sign - 'a');
-                mark = intuitionistic ? draft.need(mark) : mark;
+        private int markOfAtom(int sign) {
+            if (sign == 'T' || sign == 'F') {
+                return sign == 'T' ? Draft.YES_OF_T : Draft.deny(Draft.YES_OF_T);
             }
-            pushMark(mark);
-            endOperand();
+            int letter = draft.letter(sign - 'a');
+            return intuitionistic ? draft.need(letter) : letter;
         }
 
-        private void acceptClosing() {
-            joinDownTo(1);
+        private void closeBracket() {
             signCount = Math.max(signCount - 1, 0);
             open--;
             brackets--;
-            endOperand();
         }
 
         /** What stands ahead of an operand binds strongest, so it ends with that. */
@@ -953,7 +951,7 @@ public final class ModalDesk {
 
         private int popMark() {
             if (markCount <= 0) {
-                return 0;
+                return Draft.YES_OF_T;
             }
             markCount--;
             return marks[markCount];
@@ -1158,27 +1156,33 @@ public final class ModalDesk {
                 }
                 return;
             }
-            for (int sort = BOTH; sort <= MAY; sort++) {
-                int f = leastToDo(inTurn(sort));
-                if (f != NONE) {
-                    apply(inTurn(sort), f);
-                    return;
-                }
+            int both = leastToDo(BOTH);
+            if (both != NONE) {
+                widen(BY_BOTH, both);
+                return;
             }
-            openWorld();
-        }
-
-        /** NEEDS come ahead of EITHERS in what is done, though not among the sorts. */
-        private static int inTurn(int sort) {
-            if (sort == EITHER) {
-                return NEED;
+            int need = leastToDo(NEED);
+            if (need != NONE) {
+                widen(BY_SELF, need);
+                return;
             }
-            return sort == NEED ? EITHER : sort;
+            int either = leastToDo(EITHER);
+            if (either != NONE) {
+                tryFirst(either);
+                return;
+            }
+            int may = leastToDo(MAY);
+            if (may != NONE) {
+                lookAtMay(may);
+            } else {
+                openWorld();
+            }
         }
 
         private int leastToDo(int sort) {
-            for (int k = 0; k < Sets.WORDS; k++) {
-                long bits = left.bits(world, k) & stock.bitsOfSort(sort, k);
+            Sets bySort = stock.bySort();
+            for (int k = 0; 64 * k < stock.size(); k++) {
+                long bits = left.bits(world, k) & bySort.bits(sort, k);
                 for (int n = Long.bitCount(bits); n > 0; n--) {
                     int f = 64 * k + Long.bitCount((bits & -bits) - 1L);
                     if (!isDone(sort, f)) {
@@ -1200,23 +1204,18 @@ public final class ModalDesk {
             return first || sort == EITHER && sets.has(world, stock.secondOf(f));
         }
 
-        private void apply(int sort, int f) {
-            if (!step()) {
-                return;
-            }
-            if (sort == MAY) {
-                lookAtMay(f);
-            } else if (sort == EITHER) {
-                tryFirst(f);
-            } else if (note(sort == BOTH ? BY_BOTH : BY_SELF, f)) {
+        /** The parts of a BOTH, or the one part of a NEED, come to the SET. */
+        private void widen(int rule, int f) {
+            if (step() && note(rule, f)) {
                 add(stock.firstOf(f));
-                if (sort == BOTH) {
-                    add(stock.secondOf(f));
-                }
+                add(stock.secondOf(f));
             }
         }
 
         private void tryFirst(int f) {
+            if (!step()) {
+                return;
+            }
             if (eitherCount >= MOST_EITHERS) {
                 verdict = GREAT;
             } else if (note(BY_EITHER, f)) {
@@ -1240,6 +1239,9 @@ public final class ModalDesk {
         }
 
         private void lookAtMay(int f) {
+            if (!step()) {
+                return;
+            }
             left.drop(world, f);
             drawStart(stock.firstOf(f));
             int home = worldOfStart();
@@ -1258,9 +1260,8 @@ public final class ModalDesk {
 
         /** Puts the START of a MAY of this SET where a new world would have it. */
         private void drawStart(int part) {
-            for (int k = 0; k < Sets.WORDS; k++) {
-                starts.become(worldCount, k, sets.bits(world, k) & stock.bitsOfSort(NEED, k));
-            }
+            starts.copy(worldCount, sets, world);
+            starts.meet(worldCount, stock.bySort(), NEED);
             starts.put(worldCount, part);
         }
 
@@ -1321,6 +1322,9 @@ public final class ModalDesk {
         }
 
         private void add(int f) {
+            if (f == NONE) {
+                return;
+            }
             sets.put(world, f);
             left.put(world, f);
             int letter = stock.sortOf(f) == OPPOSITE ? stock.twinOf(f) : f;
@@ -1438,9 +1442,7 @@ public final class ModalDesk {
         }
 
         private boolean leave(int f) {
-            for (int k = 0; k < Sets.WORDS; k++) {
-                current.become(0, k, current.bits(0, k) & stock.bitsOfSort(NEED, k));
-            }
+            current.meet(0, stock.bySort(), NEED);
             current.put(0, stock.firstOf(f));
             return true;
         }
@@ -1451,6 +1453,7 @@ public final class ModalDesk {
         private final Stock stock;
         private final int[] letters = new int[MOST_WORLDS];
         private final long[] seen = new long[MOST_WORLDS];
+        private final int[] oldLetters = new int[MOST_WORLDS];
         private final int[] setSizes = new int[MOST_WORLDS];
         /** Of a world the one that it becomes, NONE if it goes; of a new world one that becomes it. */
         private final int[] becomes = new int[MOST_WORLDS];
@@ -1669,16 +1672,15 @@ public final class ModalDesk {
         private void rebuild(int newSize) {
             for (int w = size - 1; w >= 0; w--) {
                 signs[w] = moved(seen[w]);
-                setSizes[w] = letters[w];
+                oldLetters[w] = letters[w];
                 if (becomes[w] >= 0 && becomes[w] < MOST_WORLDS) {
                     origins[becomes[w]] = w;
                 }
             }
-            // the sizes of SETS are not told any more: their row holds the old letters
             for (int n = 0; n < newSize && n < size; n++) {
                 int origin = origins[n];
                 if (origin >= 0 && origin < size) {
-                    letters[n] = setSizes[origin];
+                    letters[n] = oldLetters[origin];
                     seen[n] = signs[origin];
                 }
             }

@@ -1,0 +1,130 @@
+import java.util.NoSuchElementException;
+
+/** What the tests share: answers that are due, texts put on the tape, texts told. */
+final class Checks {
+    private int wrong = 0;
+
+    void due(String call, long got, long want) {
+        if (got != want) {
+            wrong++;
+            System.out.println(call + " answered " + got + ", due is " + want);
+        }
+    }
+
+    void due(String call, boolean got, boolean want) {
+        due(call, got ? 1 : 0, want ? 1 : 0);
+    }
+
+    void due(String call, String got, String want) {
+        if (!got.equals(want)) {
+            wrong++;
+            System.out.println(call + " told " + got + ", due is " + want);
+        }
+    }
+
+    void end(String test) {
+        System.out.println(test + ": " + (wrong == 0 ? "all answers are as due" : wrong + " answers are not as due"));
+        if (wrong != 0) {
+            System.exit(1);
+        }
+    }
+
+    /** The tape has just this text then. */
+    static void type(ModalDesk desk, String text) {
+        desk.end(0);
+        for (int i = 0; i < text.length(); i += 20) {
+            int[] v = new int[5];
+            for (int k = 0; k < 20; k++) {
+                v[k / 4] = v[k / 4] << 8 | (i + k < text.length() ? text.charAt(i + k) : ' ');
+            }
+            desk.feed(v[0], v[1], v[2], v[3], v[4]);
+        }
+        desk.end(text.length());
+    }
+
+    static int read(ModalDesk desk, int slot, String text) {
+        type(desk, text);
+        return desk.read(slot, false);
+    }
+
+    static int readIntuitionistic(ModalDesk desk, int slot, String text) {
+        type(desk, text);
+        return desk.read(slot, true);
+    }
+
+    /** What OUT has, as a text. */
+    static String told(ModalDesk desk) {
+        StringBuilder b = new StringBuilder();
+        for (int i = 0; desk.out(i) != ModalDesk.NONE; i++) {
+            b.append((char) desk.out(i));
+        }
+        return b.toString();
+    }
+
+    /** What OUT has, as lines of a proof. */
+    static String toldLines(ModalDesk desk) {
+        StringBuilder b = new StringBuilder();
+        for (int i = 0; desk.out(i) != ModalDesk.NONE; i += 3) {
+            b.append(i == 0 ? "" : " ").append(desk.out(i)).append('.').append(256 * desk.out(i + 1) + desk.out(i + 2));
+        }
+        return b.toString();
+    }
+
+    /** The tape has these lines of a proof then: rule, number, rule, number .. */
+    static void typeLines(ModalDesk desk, int... lines) {
+        StringBuilder b = new StringBuilder();
+        for (int i = 0; i + 1 < lines.length; i += 2) {
+            b.append((char) lines[i]).append((char) (lines[i + 1] / 256)).append((char) (lines[i + 1] % 256));
+        }
+        type(desk, b.toString());
+    }
+
+    static String textOf(ModalDesk desk, int f) {
+        desk.tell(f);
+        return told(desk);
+    }
+
+    static String repeat(String unit, int n) {
+        return unit.repeat(n);
+    }
+
+    void throwsAtSees(ModalDesk desk, int a, int b) {
+        boolean thrown = false;
+        try {
+            desk.sees(a, b);
+        } catch (NoSuchElementException e) {
+            thrown = true;
+        }
+        due("sees(" + a + ", " + b + ") throws NoSuchElementException", thrown, true);
+    }
+
+    void throwsAtHolds(ModalDesk desk, int a, int f) {
+        boolean thrown = false;
+        try {
+            desk.holds(a, f);
+        } catch (NoSuchElementException e) {
+            thrown = true;
+        }
+        due("holds(" + a + ", " + f + ") throws NoSuchElementException", thrown, true);
+    }
+
+    void throwsAtWorld(ModalDesk desk, int a, int what) {
+        boolean thrown = false;
+        try {
+            desk.world(a, what);
+        } catch (NoSuchElementException e) {
+            thrown = true;
+        }
+        due("world(" + a + ", " + what + ") throws NoSuchElementException", thrown, true);
+    }
+
+    void throwsAtCut(ModalDesk desk, int a) {
+        boolean thrown = false;
+        try {
+            desk.cut(a);
+        } catch (NoSuchElementException e) {
+            thrown = true;
+        }
+        due("cut(" + a + ") throws NoSuchElementException", thrown, true);
+    }
+}

@@ -150,7 +150,10 @@ public final class ModalDesk {
         if (!isSlot(slot) || !stock.has(f)) {
             return NONE;
         }
-        return fill(slot, draft.copyFormula(f)) ? noOf[slot] : REFUSED;
+        // every FORMULA came with its NO, so there is none to make, and never one too many
+        yesOf[slot] = f;
+        noOf[slot] = stock.denialOf(f);
+        return noOf[slot];
     }
 
     public int slot(int slot, int what) {
@@ -288,6 +291,7 @@ public final class ModalDesk {
             stock.dropTo(before);
             return false;
         }
+        draft.pairAll();
         yesOf[slot] = yes;
         noOf[slot] = no;
         return true;
@@ -462,18 +466,20 @@ public final class ModalDesk {
         }
     }
 
-    /** The FORMULAS that there are: parts always have lower numbers than what they are parts of. */
+    /**
+     * The FORMULAS that there are: parts have lower numbers than what they are parts of, and behind
+     * each call every one has its denial, which is its NO, among them.
+     */
     private static final class Stock {
         private final int[] sorts = new int[MOST_FORMULAS];
         private final int[] firsts = new int[MOST_FORMULAS];
         private final int[] seconds = new int[MOST_FORMULAS];
-        private final int[] twins = new int[MOST_FORMULAS];
+        private final int[] denials = new int[MOST_FORMULAS];
         private final Sets ofSort = new Sets(SORTS);
         private int size;
 
         Stock() {
-            append(TRUE, NONE, NONE);
-            append(FALSE, NONE, NONE);
+            pair(append(TRUE, NONE, NONE), append(FALSE, NONE, NONE));
         }
 
         int size() {
@@ -497,9 +503,8 @@ public final class ModalDesk {
             return has(f) ? seconds[f] : NONE;
         }
 
-        /** Of a letter its opposite, of an opposite its letter. */
-        int twinOf(int f) {
-            return has(f) ? twins[f] : NONE;
+        int denialOf(int f) {
+            return has(f) ? denials[f] : NONE;
         }
 
         /** A row for each sort: the FORMULAS that are of it. */
@@ -513,10 +518,16 @@ public final class ModalDesk {
             return f != NONE ? f : append(sort, first, second);
         }
 
+        void pair(int f, int denial) {
+            if (has(f) && has(denial)) {
+                denials[f] = denial;
+                denials[denial] = f;
+            }
+        }
+
         void dropTo(int n) {
             for (int f = size - 1; f >= n && f >= 0; f--) {
                 ofSort.drop(sorts[f], f);
-                pair(twins[f], NONE);
                 size = f;
             }
         }
@@ -539,17 +550,9 @@ public final class ModalDesk {
             sorts[f] = sort;
             firsts[f] = first;
             seconds[f] = second;
+            denials[f] = NONE;
             ofSort.put(sort, f);
-            boolean lettered = sort == LETTER || sort == OPPOSITE;
-            twins[f] = lettered ? find(sort ^ 1, first, second) : NONE;
-            pair(twins[f], f);
             return f;
-        }
-
-        private void pair(int f, int twin) {
-            if (has(f)) {
-                twins[f] = twin;
-            }
         }
     }
 
@@ -572,7 +575,6 @@ public final class ModalDesk {
         private final int[] seconds = new int[MOST_NODES];
         private final int[] numbers = new int[2 * MOST_NODES];
         private final int[] way = new int[MOST_NODES];
-        private final int[] marks = new int[MOST_FORMULAS];
         private int size;
         private boolean over;
 
@@ -614,71 +616,36 @@ public final class ModalDesk {
             return deny(node(NEED, deny(x), NONE));
         }
 
-        /** Drafts the text of FORMULA f: its mark. */
-        int copyFormula(int f) {
-            clear();
-            for (int i = 0; i <= f && i < MOST_FORMULAS; i++) {
-                marks[i] = NONE;
-            }
-            want(f);
-            for (int i = Math.min(f, MOST_FORMULAS - 1); i >= 0; i--) {
-                if (marks[i] != NONE && stock.sortOf(i) >= BOTH) {
-                    want(stock.firstOf(i));
-                    want(stock.secondOf(i));
-                }
-            }
-            for (int i = 0; i <= f && i < MOST_FORMULAS; i++) {
-                if (marks[i] != NONE) {
-                    marks[i] = drafted(i);
-                }
-            }
-            return markOf(f);
-        }
-
         /** The FORMULA of a mark, made with all its parts; NONE if there would be too many. */
         int build(int mark) {
             int top = 0;
-            int next = mark;
-            for (int turn = 0; turn < TURNS; turn++) {
-                if (next != NONE && top < way.length) {
-                    way[top] = next;
-                    top++;
-                }
-                if (top == 0) {
-                    break;
-                }
-                int last = way[top - 1];
-                next = numberOf(last) != NONE ? NONE : partToMake(last);
-                if (next == NONE) {
-                    if (!number(last)) {
+            way[top] = mark;
+            for (int turn = 0; turn < TURNS && top >= 0 && top < way.length; turn++) {
+                int part = partToMake(way[top]);
+                if (part == NONE) {
+                    if (!number(way[top])) {
                         return NONE;
                     }
                     top--;
+                } else {
+                    top++;
+                    push(top, part);
                 }
             }
             return numberOf(mark);
         }
 
-        private void want(int f) {
-            if (f >= 0 && f < MOST_FORMULAS) {
-                marks[f] = 0;
+        /** Tells the stock, once both are made, which FORMULAS deny each other. */
+        void pairAll() {
+            for (int i = 0; i < size; i++) {
+                stock.pair(numbers[2 * i], numbers[2 * i + 1]);
             }
         }
 
-        private int markOf(int f) {
-            return f >= 0 && f < MOST_FORMULAS ? marks[f] : NONE;
-        }
-
-        private int drafted(int f) {
-            int sort = stock.sortOf(f);
-            int denied = sort & 1;
-            int first = stock.firstOf(f);
-            int second = stock.secondOf(f);
-            if (sort >= BOTH) {
-                first = markOf(first) ^ denied;
-                second = second == NONE ? NONE : markOf(second) ^ denied;
+        private void push(int top, int mark) {
+            if (top >= 0 && top < way.length) {
+                way[top] = mark;
             }
-            return node(sort ^ denied, first, second) ^ denied;
         }
 
         private int node(int sort, int first, int second) {
@@ -1151,8 +1118,8 @@ public final class ModalDesk {
 
         private void goOn() {
             if (clash != NONE) {
-                if (note(BY_CLASH, clash)) {
-                    closeSet();
+                if (note(BY_CLASH, clash) && goBack()) {
+                    trySecond();
                 }
                 return;
             }
@@ -1227,7 +1194,7 @@ public final class ModalDesk {
         }
 
         private void trySecond() {
-            if (!step() || eitherCount <= 0) {
+            if (eitherCount <= 0 || !step()) {
                 return;
             }
             eitherCount--;
@@ -1292,20 +1259,20 @@ public final class ModalDesk {
             clash = sets.has(world, FALSE) ? FALSE : NONE;
         }
 
-        /** The SET of this world is CLOSED, and so are those up the way that have no more to try. */
-        private void closeSet() {
-            for (int n = 0; n < MOST_WORLDS; n++) {
-                worldCount = world + 1;
-                if (eitherCount > eithersAhead[world]) {
-                    trySecond();
-                    return;
-                }
+        /**
+         * The SET of this world is CLOSED, and so are those up the way that have no second one to
+         * try: goes back to the first that has. False if there is none.
+         */
+        private boolean goBack() {
+            for (int n = 0; n < MOST_WORLDS && eitherCount == eithersAhead[world]; n++) {
                 if (parents[world] == NONE) {
                     verdict = CLOSED;
-                    return;
+                    return false;
                 }
                 world = parents[world];
             }
+            worldCount = world + 1;
+            return true;
         }
 
         /** The SET of this world is OPEN: what could have been its proof is none. */
@@ -1327,10 +1294,23 @@ public final class ModalDesk {
             }
             sets.put(world, f);
             left.put(world, f);
-            int letter = stock.sortOf(f) == OPPOSITE ? stock.twinOf(f) : f;
-            if (f == FALSE || sets.has(world, letter) && sets.has(world, stock.twinOf(letter))) {
-                clash = clash == NONE ? letter : Math.min(clash, letter);
+            int hit = clashWith(f);
+            if (hit != NONE) {
+                clash = clash == NONE ? hit : Math.min(clash, hit);
             }
+        }
+
+        /** F, or the letter that f is or denies, if both are in the SET now; NONE without a CLASH. */
+        private int clashWith(int f) {
+            int sort = stock.sortOf(f);
+            if (sort == FALSE) {
+                return f;
+            }
+            boolean lettered = sort == LETTER || sort == OPPOSITE;
+            if (!lettered || !sets.has(world, stock.denialOf(f))) {
+                return NONE;
+            }
+            return sort == LETTER ? f : stock.denialOf(f);
         }
 
         private boolean step() {
@@ -1353,12 +1333,8 @@ public final class ModalDesk {
 
     /** Goes over the lines on the tape by their rules alone. */
     private static final class Checker {
-        /** Of so many EITHERS the tape has room for the lines and for what closes them. */
+        /** If more EITHERS were parted at once, the tape had no room for what closes them. */
         static final int MOST_HELD = TAPE_BYTES / LINE_BYTES / 2;
-
-        private static final int WRONG = 0;
-        private static final int GOES_ON = 1;
-        private static final int IS_CLOSED = 2;
 
         private final ByteRow tape;
         private final Stock stock;
@@ -1383,14 +1359,16 @@ public final class ModalDesk {
             heldCount = 0;
             for (int i = 0; i < lines; i++) {
                 int at = LINE_BYTES * i;
-                int is = goOver(tape.at(at), 256 * tape.at(at + 1) + tape.at(at + 2));
-                if (is == WRONG) {
+                int rule = tape.at(at);
+                int f = 256 * tape.at(at + 1) + tape.at(at + 2);
+                if (!current.has(0, f) || !isAllowed(rule, f)) {
                     return false;
                 }
-                if (is == IS_CLOSED) {
-                    if (heldCount == 0) {
-                        return i == lines - 1;
-                    }
+                if (rule != BY_CLASH) {
+                    apply(rule, f);
+                } else if (heldCount == 0) {
+                    return i == lines - 1;
+                } else {
                     heldCount--;
                     current.copy(0, held, heldCount);
                 }
@@ -1398,53 +1376,37 @@ public final class ModalDesk {
             return false;
         }
 
-        private int goOver(int rule, int f) {
-            if (!current.has(0, f)) {
-                return WRONG;
-            }
+        private boolean isAllowed(int rule, int f) {
             int sort = stock.sortOf(f);
             switch (rule) {
                 case BY_CLASH:
-                    return isClash(sort, f) ? IS_CLOSED : WRONG;
+                    return sort == FALSE || sort == LETTER && current.has(0, stock.denialOf(f));
                 case BY_BOTH:
-                    return sort == BOTH && come(f) ? GOES_ON : WRONG;
+                    return sort == BOTH;
                 case BY_SELF:
-                    return sort == NEED && come(f) ? GOES_ON : WRONG;
+                    return sort == NEED;
                 case BY_EITHER:
-                    return sort == EITHER && part(f) ? GOES_ON : WRONG;
+                    return sort == EITHER && heldCount < MOST_HELD;
                 case BY_NEXT:
-                    return sort == MAY && leave(f) ? GOES_ON : WRONG;
+                    return sort == MAY;
                 default:
-                    return WRONG;
+                    return false;
             }
         }
 
-        private boolean isClash(int sort, int f) {
-            return sort == FALSE || sort == LETTER && current.has(0, stock.twinOf(f));
-        }
-
-        private boolean come(int f) {
-            current.put(0, stock.firstOf(f));
-            current.put(0, stock.secondOf(f));
-            return true;
-        }
-
-        /** False where so many EITHERS are open that the tape can't close them all. */
-        private boolean part(int f) {
-            if (heldCount >= MOST_HELD) {
-                return false;
+        private void apply(int rule, int f) {
+            if (rule == BY_EITHER) {
+                held.copy(heldCount, current, 0);
+                held.put(heldCount, stock.secondOf(f));
+                heldCount++;
             }
-            held.copy(heldCount, current, 0);
-            held.put(heldCount, stock.secondOf(f));
-            heldCount++;
+            if (rule == BY_NEXT) {
+                current.meet(0, stock.bySort(), NEED);
+            }
             current.put(0, stock.firstOf(f));
-            return true;
-        }
-
-        private boolean leave(int f) {
-            current.meet(0, stock.bySort(), NEED);
-            current.put(0, stock.firstOf(f));
-            return true;
+            if (rule == BY_BOTH) {
+                current.put(0, stock.secondOf(f));
+            }
         }
     }
 

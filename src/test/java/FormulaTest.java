@@ -4,7 +4,7 @@ public final class FormulaTest {
 
     public static void main(String[] args) {
         set();
-        setTooMany();
+        setWithoutRoom();
         slot();
         formula();
         tell();
@@ -37,8 +37,8 @@ public final class FormulaTest {
         c.due("set is no read", x.fault(0), 0);
     }
 
-    /** Every formula has its denial from the read that made it, but -2 must refuse where one would be too many. */
-    private static void setTooMany() {
+    /** Every formula has its NO from the read that made it, so nothing is made even where there is no room. */
+    private static void setWithoutRoom() {
         ModalDesk x = new ModalDesk();
         Checks.read(x, 0, "a" + Checks.repeat("&a", 148));
         c.due("formulas()", x.formulas(), 300);

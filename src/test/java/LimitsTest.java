@@ -90,6 +90,14 @@ public final class LimitsTest {
         c.due("count(0)", y.count(0), 60);
         c.due("count(1)", y.count(1), 60);
         c.due("count(3)", y.count(3), 60);
+        // the last of 60 worlds on one way is CLOSED, and so all are
+        ModalDesk z = new ModalDesk();
+        Checks.read(z, 0, Checks.repeat("[]", 59) + "T");
+        c.due("prove", z.prove(0, 59), 1);
+        c.due("count(1)", z.count(1), 60);
+        c.due("proof()", z.proof(), 180);
+        z.take();
+        c.due("verify(0)", z.verify(0), 1);
         // worlds of what was CLOSED are gone: they are counted as begun, but not as there
         String way = Checks.repeat("<>", 40);
         open("!(" + way + "(y&!y)|" + way + "z)", 41, 81, 41);

@@ -224,6 +224,16 @@ public final class ReadTest {
         c.due("prove a&!a", x.prove(0, 10), 0);
         c.due("read of !(a&!a)", Checks.read(x, 0, "!(a&!a)"), 5);
         c.due("prove !(a&!a)", x.prove(0, 10), 1);
+        // 299 is a BOTH's number in what is refused, then an EITHER's
+        x = new ModalDesk();
+        c.due("read of 100 nodes", Checks.read(x, 0, "a" + Checks.repeat("&a", 99)), 101);
+        c.due("read of 60 more", Checks.read(x, 0, "c" + Checks.repeat("|c", 59)), -2);
+        c.due("fault(0)", x.fault(0), 4);
+        c.due("formulas()", x.formulas(), 202);
+        c.due("read of 49 more", Checks.read(x, 0, "d" + Checks.repeat("&d", 48)), 250);
+        c.due("formulas()", x.formulas(), 300);
+        c.due("prove", x.prove(0, 1000), 0);
+        c.due("count(0)", x.count(0), 48);
     }
 
     private static void refusals() {

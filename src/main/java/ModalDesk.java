@@ -784,14 +784,16 @@ public final class ModalDesk {
         /** The byte at p, a blank as ' ', of [] and of <> the first one; 0 for half of those. */
         private int signAt(int p) {
             int b = tape.at(p);
+            // a byte behind the 400th is none of the TEXT, so it is no half of a sign of it
+            int next = p + 1 < TEXT_BYTES ? tape.at(p + 1) : NONE;
             if (b == 10) {
                 return ' ';
             }
             if (b == '[') {
-                return tape.at(p + 1) == ']' ? b : 0;
+                return next == ']' ? b : 0;
             }
             if (b == '<') {
-                return tape.at(p + 1) == '>' ? b : 0;
+                return next == '>' ? b : 0;
             }
             return b;
         }

@@ -1,13 +1,31 @@
+import java.util.ArrayList;
+import java.util.List;
 import java.util.NoSuchElementException;
 
 /** What the tests share: answers that are due, texts put on the tape, texts told. */
 final class Checks {
+    /** Words of the document, with the part of it in which they stand. */
+    record Quote(String part, String words) {
+    }
+
+    private final List<Quote> quotes = new ArrayList<>();
+    private String due = "due is ";
     private int wrong = 0;
+
+    /** What is due from here on is due by these words of the document. */
+    void says(String part, String words) {
+        quotes.add(new Quote(part, words));
+        due = part + " (" + words + "): due is ";
+    }
+
+    List<Quote> quotes() {
+        return quotes;
+    }
 
     void due(String call, long got, long want) {
         if (got != want) {
             wrong++;
-            System.out.println(call + " answered " + got + ", due is " + want);
+            System.out.println(call + " answered " + got + ", " + due + want);
         }
     }
 
@@ -18,7 +36,7 @@ final class Checks {
     void due(String call, String got, String want) {
         if (!got.equals(want)) {
             wrong++;
-            System.out.println(call + " told " + got + ", due is " + want);
+            System.out.println(call + " told " + got + ", " + due + want);
         }
     }
 

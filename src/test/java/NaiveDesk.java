@@ -145,10 +145,11 @@ final class NaiveDesk {
         }
         sign = "" + (char) (int) text.get(at);
         at++;
-        if (sign.equals("[") && at < text.size() && text.get(at) == ']') {
+        boolean more = at < text.size() && at < 400;
+        if (sign.equals("[") && more && text.get(at) == ']') {
             sign = "[]";
             at++;
-        } else if (sign.equals("<") && at < text.size() && text.get(at) == '>') {
+        } else if (sign.equals("<") && more && text.get(at) == '>') {
             sign = "<>";
             at++;
         }

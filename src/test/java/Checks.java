@@ -70,20 +70,24 @@ final class Checks {
         return desk.read(slot, true);
     }
 
-    /** What OUT has, as a text. */
+    /** What OUT has, as a text: each byte is asked for once, as a desk is good for 512 calls. */
     static String told(ModalDesk desk) {
         StringBuilder b = new StringBuilder();
-        for (int i = 0; desk.out(i) != ModalDesk.NONE; i++) {
-            b.append((char) desk.out(i));
+        int next = desk.out(0);
+        while (next != ModalDesk.NONE) {
+            b.append((char) next);
+            next = desk.out(b.length());
         }
         return b.toString();
     }
 
-    /** What OUT has, as lines of a proof. */
+    /** What OUT has, as lines of a proof: rule.number rule.number .. */
     static String toldLines(ModalDesk desk) {
+        String bytes = told(desk);
         StringBuilder b = new StringBuilder();
-        for (int i = 0; desk.out(i) != ModalDesk.NONE; i += 3) {
-            b.append(i == 0 ? "" : " ").append(desk.out(i)).append('.').append(256 * desk.out(i + 1) + desk.out(i + 2));
+        for (int i = 0; i + 2 < bytes.length(); i += 3) {
+            b.append(i == 0 ? "" : " ").append((int) bytes.charAt(i)).append('.');
+            b.append(256 * bytes.charAt(i + 1) + bytes.charAt(i + 2));
         }
         return b.toString();
     }

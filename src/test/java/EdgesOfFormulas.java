@@ -14,6 +14,8 @@ final class EdgesOfFormulas {
         read();
         readWithoutSlot();
         readWithFault();
+        readWithoutRoom();
+        readBehindFaults();
         fault();
         faultOfTheLatest();
         faultOfAnotherWhat();
@@ -94,6 +96,53 @@ final class EdgesOfFormulas {
             c.due("read of b", Checks.read(x, 1, "b"), 4);
             c.due("slot(1, 1)", x.slot(1, 1), 5);
         }
+    }
+
+    /** There is room for some of what would be made: that goes again, and others take its numbers. */
+    private void readWithoutRoom() {
+        ModalDesk x = new ModalDesk();
+        c.due("read of 200 FORMULAS", Checks.read(x, 0, "a" + "&a".repeat(99)), 101);
+        c.due("read of 120 more", Checks.read(x, 0, "c" + "|c".repeat(59)), -2);
+        c.due("fault(0)", x.fault(0), 4);
+        c.due("nothing is made", x.formulas(), 202);
+        c.due("formula(202, 0)", x.formula(202, 0), -1);
+        c.due("slot(0, 0) stays", x.slot(0, 0), 101);
+        c.due("tell(202)", x.tell(202), -1);
+        // 202 is a letter either way; 203 .. 250 would have been EITHERS, and are BOTHS
+        c.due("read of 98 more", Checks.read(x, 0, "d" + "&d".repeat(48)), 250);
+        c.due("formulas()", x.formulas(), 300);
+        formulaIs(x, 202, 2, 3, -1);
+        formulaIs(x, 203, 4, 202, 202);
+        formulaIs(x, 299, 5, 298, 251);
+        c.due("prove", x.prove(0, 1000), 0);
+        c.due("count(0)", x.count(0), 48);
+        // of the innermost BOTH the parts are there already
+        x.set(1, 299);
+        c.due("prove of its NO", x.prove(1, 1000), 0);
+        c.due("count(0)", x.count(0), 47);
+    }
+
+    /** Whatever a text with a FAULT began, nothing of it is left in the next one. */
+    private void readBehindFaults() {
+        ModalDesk x = new ModalDesk();
+        for (int i = 0; i < 4; i++) {
+            c.due("read of 199 > and no more", Checks.read(x, 0, "a>".repeat(199) + ")"), -2);
+            c.due("fault(1)", x.fault(1), 398);
+        }
+        for (char p = 'a'; p < 'e'; p++) {
+            c.due("read of 140 & and a )", Checks.read(x, 0, p + ("&" + p).repeat(140) + ")"), -2);
+            c.due("fault(1)", x.fault(1), 281);
+        }
+        c.due("read of 60 ( and no more", Checks.read(x, 0, "(".repeat(60) + "a"), -2);
+        c.due("fault(1)", x.fault(1), 61);
+        c.due("read of b)", Checks.read(x, 0, "b)"), -2);
+        c.due("fault(1)", x.fault(1), 1);
+        c.due("read of 60 !", Checks.read(x, 0, "!".repeat(60)), -2);
+        c.due("read of 60 ! and b", Checks.read(x, 0, "!".repeat(60) + "b"), 2);
+        c.due("read of b>c>d", Checks.read(x, 0, "b>c>d"), 7);
+        c.due("its text", Checks.textOf(x, 7), "(!b|(!c|d))");
+        c.due("read of 60 ( .. )", Checks.read(x, 0, "(".repeat(60) + "b" + ")".repeat(60)), 2);
+        c.due("read of 140 & of b", Checks.read(x, 0, "b" + "&b".repeat(140)) > 0, true);
     }
 
     // ---- Promise 8
@@ -388,6 +437,14 @@ final class EdgesOfFormulas {
         tells("b" + "&b".repeat(147), 400, -2);
         // each = doubles the text
         tells("a" + "=a".repeat(35), 400, '(');
+        // what was not told of one is not told with the next one
+        ModalDesk x = new ModalDesk();
+        int f = Checks.read(x, 0, "b" + "&b".repeat(100));
+        c.due("tell of 401 bytes", x.tell(f), 400);
+        c.due("tell(0)", x.tell(0), 1);
+        c.due("OUT", Checks.told(x), "T");
+        c.due("tell of three more", x.tell(3), 5);
+        c.due("OUT", Checks.told(x), "(b&b)");
     }
 
     /** The text of what is read has so many bytes, and this one is the last of them. */

@@ -141,6 +141,10 @@ final class EdgesOfModels {
         x.prove(0, 1);
         holdsAt(x, "a", "1");
         holdsAt(x, "[](a|b)", "1");
+        Checks.read(x, 0, "a");
+        x.prove(0, 1);
+        holdsAt(x, "a", "0");
+        holdsAt(x, "[](a|b)", "0");
         // 300 FORMULAS, and the last of 60 worlds
         x = sixtyWorlds();
         Checks.read(x, 1, "z" + "&z".repeat(88));
@@ -316,6 +320,18 @@ final class EdgesOfModels {
         c.due("worlds()", x.worlds(), 2);
         // one world
         x = open("a", 1);
+        c.due("fold()", x.fold(), 1);
+        // two worlds with a that are alike, behind a model that was parted otherwise, and one that was cut
+        x = fiveWorlds();
+        c.due("fold()", x.fold(), 2);
+        Checks.read(x, 0, "!(a&<>(a&T))");
+        c.due("prove", x.prove(0, 100), 0);
+        c.due("worlds()", x.worlds(), 2);
+        c.due("fold()", x.fold(), 1);
+        holdsAt(x, "a", "1");
+        c.due("prove", x.prove(0, 100), 0);
+        c.due("cut(1)", x.cut(1), 1);
+        c.due("prove", x.prove(0, 100), 0);
         c.due("fold()", x.fold(), 1);
     }
 

@@ -18,6 +18,7 @@ final class EdgesOfProofs {
         byEither();
         byNext();
         partsThereAlready();
+        eachRuleOfItsSort();
         bytesOfLines();
         fuel();
         closed();
@@ -196,6 +197,20 @@ final class EdgesOfProofs {
         int letter = z.formula(inner, 1);
         verifies(z, 1, 1, no, 1, inner, 4, may, 2, need, 0, letter);
         verifies(z, 1, 1, no, 1, inner, 2, need, 2, need, 0, letter);
+    }
+
+    /** NO is F&F, F|F, []F, <>F, F: any of them would be CLOSED, but each by its own rule alone. */
+    private void eachRuleOfItsSort() {
+        String[] texts = {"T", "!(F&F)", "![]F", "!(F|F)", "!<>F"};
+        for (int sort = 0; sort < texts.length; sort++) {
+            for (int rule = 0; rule <= 5; rule++) {
+                ModalDesk x = having(texts[sort]);
+                int no = x.slot(0, 1);
+                verifies(x, rule == sort && rule == 0 ? 1 : 0, rule, no);
+                verifies(x, rule == sort && rule != 0 && rule != 3 ? 1 : 0, rule, no, 0, 1);
+                verifies(x, rule == sort && rule == 3 ? 1 : 0, rule, no, 0, 1, 0, 1);
+            }
+        }
     }
 
     private void bytesOfLines() {
@@ -531,10 +546,11 @@ final class EdgesOfProofs {
     /** NO is (F|F), which may be parted again and again. */
     private void parted(int parted, int closed, int want) {
         ModalDesk x = having("!(F|F)");
+        int f = x.slot(0, 1);
         int[] lines = new int[2 * (parted + closed)];
         for (int i = 0; i < parted + closed; i++) {
             lines[2 * i] = i < parted ? 3 : 0;
-            lines[2 * i + 1] = i < parted ? x.slot(0, 1) : 1;
+            lines[2 * i + 1] = i < parted ? f : 1;
         }
         Checks.typeLines(x, lines);
         c.due("verify of " + parted + " parted, " + closed + " closed", x.verify(0), want);

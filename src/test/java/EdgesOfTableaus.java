@@ -280,6 +280,14 @@ final class EdgesOfTableaus {
         ModalDesk x = proved(new ModalDesk(), "!([]<>a&[]<>!a)", 0, 17, 5, 2, 3);
         sight(x, "11111", "01100", "01100", "00011", "00011");
         holdsAt(x, "a", "01001");
+        // behind 55 others: what leads back wants no 61st world
+        String inner = "(<>[]!a|<>[]a)";
+        x = proved(new ModalDesk(), "[]".repeat(55) + inner, 0, 55 + 17, 60, 2, 58);
+        c.due("worlds()", x.worlds(), 60);
+        c.due("sees(58, 59)", x.sees(58, 59), true);
+        c.due("sees(59, 58)", x.sees(59, 58), true);
+        c.due("sees(58, 57)", x.sees(58, 57), false);
+        stopped("[]".repeat(56) + inner, 100000, -4, 56 + 14, 60, 1, 59);
     }
 
     private void newWorld() {
@@ -310,6 +318,18 @@ final class EdgesOfTableaus {
         c.due("world(1, 3)", x.world(1, 3), 1);
         holdsAt(x, "b", "00");
         holdsAt(x, "c", "01");
+        // worlds 1 and 2 were one behind the other, and now they are not
+        x = proved(new ModalDesk(), "!(<><>b&<>F|<>c&<>d)", 0, 9, 6, 0, 3);
+        sight(x, "111", "010", "001");
+        // in a world behind: what was seen from its first SET is not from its second one
+        x = proved(new ModalDesk(), "!<>(<>b&<>F|c)", 0, 6, 4, 0, 3);
+        sight(x, "11", "01");
+        holdsAt(x, "c", "01");
+        // of what an earlier tableau had nothing is left either
+        x = threeWorlds();
+        Checks.read(x, 0, "!(<>a&<>b)");
+        c.due("prove", x.prove(0, 100), 0);
+        sight(x, "111", "010", "001");
     }
 
     // ---- Terms 4: what is counted, what is too much
@@ -379,6 +399,15 @@ final class EdgesOfTableaus {
         c.says("Terms 4", "a 401st EITHER whose second SET is yet to come (of all worlds on the way),");
         proved(new ModalDesk(), eithers("(?|F)", 19, "z"), 0, 820, 20, 0, 20);
         stopped(eithers("(?|F)", 19, "(z|F)"), 100000, -4, 821, 20, 0, 20);
+        // 400 behind 401 that were too many, and behind 400 that were OPEN
+        ModalDesk y = new ModalDesk();
+        Checks.read(y, 0, eithers("(?|F)", 19, "z"));
+        Checks.read(y, 1, eithers("(?|F)", 19, "(z|F)"));
+        c.due("prove of 401", y.prove(1, 100000), -4);
+        c.due("prove of 400", y.prove(0, 100000), 0);
+        c.due("prove of 400 once more", y.prove(0, 820), 0);
+        c.due("prove of 400 with less", y.prove(0, 819), -3);
+        c.due("prove of 400 once more", y.prove(0, 820), 0);
         // 420 whose second SET has come
         proved(new ModalDesk(), eithers("(F|?)", 20, "z"), 0, 1281, 21, 0, 21);
         // 480 of which no more than 50 are on one way

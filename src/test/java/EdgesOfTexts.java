@@ -34,15 +34,19 @@ final class EdgesOfTexts {
 
     // ---- what is looked at again and again
 
-    /** The text is read, on a new desk, as what has these texts. */
+    /** The text is read as what has these texts. */
     private void reads(String text, boolean intuitionistic, String yes, String no) {
-        ModalDesk x = new ModalDesk();
-        Checks.type(x, text);
         String shown = shown(text, intuitionistic);
-        c.due("YES of " + shown, Checks.textOf(x, x.read(0, intuitionistic)), yes);
-        c.due("NO of " + shown, Checks.textOf(x, x.slot(0, 1)), no);
-        c.due("fault(0) of " + shown, x.fault(0), 0);
-        c.due("fault(1) of " + shown, x.fault(1), -1);
+        for (int what = 0; what < 2; what++) {
+            ModalDesk x = new ModalDesk();
+            Checks.type(x, text);
+            int f = x.read(0, intuitionistic);
+            c.due("slot(0, 0) of " + shown, x.slot(0, 0), f);
+            c.due("fault(0) of " + shown, x.fault(0), 0);
+            c.due("fault(1) of " + shown, x.fault(1), -1);
+            String told = Checks.textOf(x, x.slot(0, what));
+            c.due((what == 0 ? "YES of " : "NO of ") + shown, told, what == 0 ? yes : no);
+        }
     }
 
     private void reads(String text, String yes, String no) {

@@ -41,7 +41,7 @@ public final class OracleTest {
     }
 
     private void run() {
-        for (int i = 0; log.size() < 480 && !differs; i++) {
+        for (int i = 0; log.size() < 400 && !differs; i++) {
             turn();
         }
         if (differs) {
